@@ -1,0 +1,74 @@
+/** What the tests share: it prints each answer that is not the one that is due. */
+final class Check {
+    interface Call {
+        long answer();
+    }
+
+    private static int wrong = 0;
+
+    private Check() {
+    }
+
+    static void same(String what, long got, long due) {
+        if (got != due) {
+            tellWrong(what + " answered " + got + ", due is " + due);
+        }
+    }
+
+    static void sameDouble(String what, double got, double due) {
+        if (got != due) {
+            tellWrong(what + " answered " + got + ", due is " + due);
+        }
+    }
+
+    static void isTrue(String what, boolean holds) {
+        if (!holds) {
+            tellWrong(what + " does not hold");
+        }
+    }
+
+    /** The call throws exactly this exception, and the object's checksum is the same behind it. */
+    static void refused(MuffledTolls x, String what, Class<?> due, Call call) {
+        long before = x.digest();
+        String got = outcome(call);
+        if (!got.equals(due.getName())) {
+            tellWrong(what + " gave " + got + ", due is " + due.getName());
+        }
+        same("digest() behind " + what, x.digest(), before);
+    }
+
+    static void noIndex(MuffledTolls x, String what, Call call) {
+        refused(x, what, IndexOutOfBoundsException.class, call);
+    }
+
+    static void noArgument(MuffledTolls x, String what, Call call) {
+        refused(x, what, IllegalArgumentException.class, call);
+    }
+
+    static void noState(MuffledTolls x, String what, Call call) {
+        refused(x, what, IllegalStateException.class, call);
+    }
+
+    /** The answer as a text, or the name of the exception. */
+    static String outcome(Call call) {
+        try {
+            return Long.toString(call.answer());
+        } catch (RuntimeException e) {
+            return e.getClass().getName();
+        }
+    }
+
+    static void tellWrong(String text) {
+        wrong++;
+        if (wrong <= 40) {
+            System.out.println(text);
+        }
+    }
+
+    static void finish() {
+        System.out.println(wrong == 0 ? "all answers are as due" : wrong + " answers are not as due");
+        if (wrong != 0) {
+            System.exit(1);
+        }
+    }
+}
