@@ -179,7 +179,7 @@ public final class MuffledTolls {
 
     public double mean() {
         if (tower.ringerCount == 0) {
-            return 0;
+            return 0.0;
         }
         int tired = 0;
         for (int ringer = 0; ringer < tower.ringerCount; ringer++) {

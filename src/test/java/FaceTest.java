@@ -27,7 +27,8 @@ public final class FaceTest {
         }
         for (Class<?> inside : face.getDeclaredClasses()) {
             int hidden = inside.getModifiers() & (Modifier.PUBLIC | Modifier.PROTECTED);
-            Check.isTrue(inside.getName() + " is hidden and static", hidden == 0 && Modifier.isStatic(inside.getModifiers()));
+            boolean isStatic = Modifier.isStatic(inside.getModifiers());
+            Check.isTrue(inside.getName() + " is hidden and static", hidden == 0 && isStatic);
         }
         Check.finish();
     }

@@ -9,9 +9,11 @@ public final class MinutesTest {
         endsKnowsItsLimit();
         endsRefuses();
         foreseeTellsTheTruth();
+        foreseeGoesOnFromWhatIs();
         foreseeRefuses();
         chooseTakesTheSoonest();
         chooseTakesTheSmallestOfSeveral();
+        chooseMindsOneMinute();
         chooseMindsTheQueues();
         chooseKnowsItsLimit();
         chooseInAFullTower();
@@ -126,6 +128,22 @@ public final class MinutesTest {
         }
     }
 
+    private static void foreseeGoesOnFromWhatIs() {
+        MuffledTolls x = new MuffledTolls();
+        x.ringer(9);
+        x.weigh(0, 4);
+        x.toll(0, 2, 0, 1);
+        x.fit(0, 0, 1);
+        x.pass(1);
+        // the leather is worn by 4 of 10, so strokes 3 and 5 wear it through; 5 is in the minute 5
+        Check.same("behind that stroke", x.foresee(5, 8), 0);
+        Check.same("before it", x.foresee(4, 8), 1);
+        Check.same("the back side is next, and loud", x.foresee(1, 6), 1);
+        Check.same("and then the hand side is not", x.foresee(2, 6), 1);
+        x.pass(5);
+        Check.same("as it is then", x.count(8), 0);
+    }
+
     private static void foreseeRefuses() {
         MuffledTolls x = busy();
         for (int minutes : new int[] {0, 241, -1, Integer.MIN_VALUE, Integer.MAX_VALUE}) {
@@ -162,6 +180,21 @@ public final class MinutesTest {
         x.ringer(9);
         x.ringer(9);
         Check.same("only 3 is free", x.choose(1, 3, 2), 3);
+    }
+
+    private static void chooseMindsOneMinute() {
+        MuffledTolls x = new MuffledTolls();
+        for (int i = 0; i < 4; i++) {
+            x.ringer(9);
+        }
+        x.toll(0, 0, 7, 1);
+        x.toll(1, 0, 6, 1);
+        x.toll(2, 0, 5, 1);
+        x.toll(3, 0, 5, 1);
+        Check.same("sooner by a minute each", x.choose(0, 0, 1), 2);
+        x.toll(2, 0, 9, 1);
+        x.toll(3, 0, 9, 1);
+        Check.same("sooner by a minute than 0", x.choose(0, 0, 1), 1);
     }
 
     private static void chooseMindsTheQueues() {

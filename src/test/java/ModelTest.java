@@ -9,12 +9,12 @@ public final class ModelTest {
     private final PlainTower y = new PlainTower();
     private final Random random;
     private final int run;
-    private final boolean long_;
+    private final boolean wide;
 
     private ModelTest(int run) {
         this.run = run;
         random = new Random(run);
-        long_ = run % 4 == 0;
+        wide = run % 4 == 0;
     }
 
     public static void main(String[] args) {
@@ -61,8 +61,8 @@ public final class ModelTest {
             case 1 -> fit(a, number(0, 1), number(0, 9));
             case 2, 3 -> one("ringer", number(1, 9), x::ringer, y::ringer);
             case 4 -> two("send", a, ringer, x::send, y::send);
-            case 5, 6 -> toll(a, number(0, 2), long_ ? number(0, 120) : number(0, 12), number(1, 5));
-            case 7 -> one("pass", long_ ? number(1, 240) : number(1, 12), x::pass, y::pass);
+            case 5, 6 -> toll(a, number(0, 2), wide ? number(0, 120) : number(0, 12), number(1, 5));
+            case 7 -> one("pass", wide ? number(1, 240) : number(1, 12), x::pass, y::pass);
             case 8 -> one("store", number(1, 50), x::store, y::store);
             case 9 -> two("lasts", a, number(0, 1), x::lasts, y::lasts);
             case 10 -> two("bell", a, number(0, 8), x::bell, y::bell);

@@ -191,6 +191,13 @@ public final class RingersTest {
         Check.same("stays at the rope and does not rest", x.told(0, 1), 10);
         Check.same("at the rope", x.bell(0, 4), 0);
         Check.same("its toll rings", x.about(0, 7), 1);
+        for (int strength = 1; strength <= 9; strength++) {
+            MuffledTolls y = new MuffledTolls();
+            y.ringer(strength);
+            y.weigh(0, 1);
+            y.toll(0, 0, 120, 1);
+            Check.same("strokes of 1 with " + strength, y.pass(200), 10 * strength);
+        }
     }
 
     private static void nobodyMeansNoStroke() {
