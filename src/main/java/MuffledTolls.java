@@ -301,6 +301,14 @@ public final class MuffledTolls {
             store = other.store;
         }
 
+        private boolean isRinger(int number) {
+            return number >= 0 && number < ringerCount;
+        }
+
+        private boolean isToll(int number) {
+            return number >= 0 && number < tollCount;
+        }
+
         int addRinger(int strength) {
             int number = ringerCount;
             if (number >= ringers.length) {
@@ -354,7 +362,7 @@ public final class MuffledTolls {
         }
 
         private void emptyRope(Bell bell) {
-            if (bell.rope >= 0) {
+            if (bell.rope >= 0 && bell.rope < ringerCount) {
                 ringers[bell.rope].bell = NONE;
             }
             bell.rope = NOBODY;
@@ -370,7 +378,7 @@ public final class MuffledTolls {
 
         /** Answers how many minutes it takes, -1 if more than the most. */
         int passTillDone(int number, int most) {
-            if (number < 0 || number >= tollCount) {
+            if (!isToll(number)) {
                 return -1;
             }
             Toll toll = tolls[number];
@@ -386,7 +394,7 @@ public final class MuffledTolls {
             int strokes = 0;
             for (int bell = 0; bell < BELLS; bell++) {
                 int ringer = goOn(bell);
-                if (ringer >= 0) {
+                if (isRinger(ringer)) {
                     strike(bells[bell], ringers[ringer]);
                     strokes++;
                 }
@@ -401,7 +409,7 @@ public final class MuffledTolls {
         /** Begins a bell's part of a minute; answers who pulls in it, -1 if there is no stroke. */
         private int goOn(int number) {
             Bell bell = bells[number];
-            if (bell.goesOnWith < 0) {
+            if (!isToll(bell.goesOnWith)) {
                 return NOBODY;
             }
             if (bell.pause > 0) {
@@ -414,11 +422,11 @@ public final class MuffledTolls {
         /** Answers who is at the rope and can pull, after a relief if there must be one; -1 for nobody. */
         private int findPuller(int number) {
             Bell bell = bells[number];
-            if (bell.rope >= 0 && ringers[bell.rope].canPull(bell.weight)) {
+            if (isRinger(bell.rope) && ringers[bell.rope].canPull(bell.weight)) {
                 return bell.rope;
             }
             int relief = leastTiredAtRest(bell.weight);
-            if (relief >= 0) {
+            if (isRinger(relief)) {
                 bringToRope(number, relief);
                 ringers[relief].reliefs++;
             }

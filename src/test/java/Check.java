@@ -5,8 +5,20 @@ final class Check {
     }
 
     private static int wrong = 0;
+    private static String sentence = "";
 
     private Check() {
+    }
+
+    /** What is wrong from now on is told with this sentence of the document. */
+    static void isOf(String words) {
+        sentence = words;
+    }
+
+    /** Numbers that are not least to most: next to both ends, far away, and such as a narrower type would cut. */
+    static int[] outside(int least, int most) {
+        return new int[] {least - 1, most + 1, least - 256, least + 256, least + 65536,
+            Integer.MIN_VALUE, Integer.MIN_VALUE + least, Integer.MAX_VALUE};
     }
 
     static void same(String what, long got, long due) {
@@ -61,7 +73,7 @@ final class Check {
     static void tellWrong(String text) {
         wrong++;
         if (wrong <= 40) {
-            System.out.println(text);
+            System.out.println(sentence.isEmpty() ? text : text + " [" + sentence + "]");
         }
     }
 

@@ -1,4 +1,4 @@
-/** Promises 15 to 20: pass, ends, foresee, choose, mean, digest. */
+/** Promises 15 to 19: pass, ends, foresee, choose, mean; digest is in SentencesOfMinutes. */
 public final class MinutesTest {
 
     public static void main(String[] args) {
@@ -20,7 +20,6 @@ public final class MinutesTest {
         chooseRefuses();
         looksChangeNothing();
         meanIsOfAll();
-        digestFoldsAll();
         Check.finish();
     }
 
@@ -41,8 +40,8 @@ public final class MinutesTest {
     }
 
     private static void passInPartsIsTheSame() {
-        MuffledTolls x = busy();
-        MuffledTolls y = busy();
+        MuffledTolls x = Towers.busy();
+        MuffledTolls y = Towers.busy();
         int strokes = x.pass(120);
         int sum = 0;
         for (int i = 0; i < 120; i++) {
@@ -53,32 +52,22 @@ public final class MinutesTest {
     }
 
     private static void passRefuses() {
-        MuffledTolls x = busy();
+        MuffledTolls x = Towers.busy();
         for (int minutes : new int[] {0, 241, -1, Integer.MIN_VALUE, Integer.MAX_VALUE}) {
             Check.noArgument(x, "pass(" + minutes + ")", () -> x.pass(minutes));
         }
     }
 
     private static void endsTellsTheTruth() {
-        MuffledTolls x = busy();
-        for (int toll = 0; toll < x.count(3); toll++) {
-            MuffledTolls y = busy();
-            int due = 0;
-            while (y.about(toll, 7) != 2 && due < 600) {
-                y.pass(1);
-                due++;
-            }
-            Check.same("ends(" + toll + ")", x.ends(toll), y.about(toll, 7) == 2 ? due : -1);
-        }
-        MuffledTolls z = new MuffledTolls();
-        z.ringer(9);
-        z.toll(0, 0, 0, 1);
-        Check.same("at first", z.ends(0), 5);
-        z.pass(4);
-        Check.same("before the last stroke", z.ends(0), 1);
-        z.pass(1);
-        Check.same("behind it", z.ends(0), 0);
-        Check.same("done in", z.about(0, 8), 4);
+        MuffledTolls x = new MuffledTolls();
+        x.ringer(9);
+        x.toll(0, 0, 0, 1);
+        Check.same("at first", x.ends(0), 5);
+        x.pass(4);
+        Check.same("before the last stroke", x.ends(0), 1);
+        x.pass(1);
+        Check.same("behind it", x.ends(0), 0);
+        Check.same("done in", x.about(0, 8), 4);
     }
 
     private static void endsKnowsItsLimit() {
@@ -109,7 +98,7 @@ public final class MinutesTest {
     }
 
     private static void endsRefuses() {
-        MuffledTolls x = busy();
+        MuffledTolls x = Towers.busy();
         int tolls = x.count(3);
         for (int toll : new int[] {-1, tolls, 20, Integer.MIN_VALUE, Integer.MAX_VALUE}) {
             Check.noIndex(x, "ends(" + toll + ")", () -> x.ends(toll));
@@ -119,8 +108,8 @@ public final class MinutesTest {
     private static void foreseeTellsTheTruth() {
         int[] whats = {2, 4, 5, 6, 8};
         for (int minutes : new int[] {1, 2, 17, 60, 239, 240}) {
-            MuffledTolls x = busy();
-            MuffledTolls y = busy();
+            MuffledTolls x = Towers.busy();
+            MuffledTolls y = Towers.busy();
             y.pass(minutes);
             for (int what : whats) {
                 Check.same("foresee(" + minutes + ", " + what + ")", x.foresee(minutes, what), y.count(what));
@@ -145,7 +134,7 @@ public final class MinutesTest {
     }
 
     private static void foreseeRefuses() {
-        MuffledTolls x = busy();
+        MuffledTolls x = Towers.busy();
         for (int minutes : new int[] {0, 241, -1, Integer.MIN_VALUE, Integer.MAX_VALUE}) {
             Check.noArgument(x, "foresee(" + minutes + ", 5)", () -> x.foresee(minutes, 5));
             Check.noArgument(x, "foresee(" + minutes + ", 0)", () -> x.foresee(minutes, 0));
@@ -260,7 +249,7 @@ public final class MinutesTest {
     }
 
     private static void chooseRefuses() {
-        MuffledTolls x = busy();
+        MuffledTolls x = Towers.busy();
         for (int kind : new int[] {-1, 3, Integer.MIN_VALUE, Integer.MAX_VALUE}) {
             Check.noArgument(x, "choose(" + kind + ", 0, 1)", () -> x.choose(kind, 0, 1));
         }
@@ -273,8 +262,8 @@ public final class MinutesTest {
     }
 
     private static void looksChangeNothing() {
-        MuffledTolls x = busy();
-        MuffledTolls y = busy();
+        MuffledTolls x = Towers.busy();
+        MuffledTolls y = Towers.busy();
         for (int i = 0; i < 20; i++) {
             long before = x.digest();
             x.ends(i % 6);
@@ -304,64 +293,5 @@ public final class MinutesTest {
         x.toll(1, 0, 9, 1);
         x.pass(1);
         Check.sameDouble("two of three", x.mean(), 11.0 / 3);
-    }
-
-    private static void digestFoldsAll() {
-        MuffledTolls x = busy();
-        for (int i = 0; i < 10; i++) {
-            Check.same("digest()", x.digest(), folded(x));
-            x.pass(9);
-        }
-        MuffledTolls y = new MuffledTolls();
-        Check.same("digest() of a new one", y.digest(), folded(y));
-    }
-
-    private static long folded(MuffledTolls x) {
-        long d = 1249;
-        for (int what = 0; what < 9; what++) {
-            d = d * 31 + x.count(what);
-        }
-        for (int bell = 0; bell < 4; bell++) {
-            for (int what = 0; what < 9; what++) {
-                d = d * 31 + x.bell(bell, what);
-            }
-            d = d * 31 + x.lasts(bell, 0);
-            d = d * 31 + x.lasts(bell, 1);
-        }
-        for (int ringer = 0; ringer < x.count(1); ringer++) {
-            for (int what = 0; what < 5; what++) {
-                d = d * 31 + x.told(ringer, what);
-            }
-        }
-        for (int toll = 0; toll < x.count(3); toll++) {
-            for (int what = 0; what < 9; what++) {
-                d = d * 31 + x.about(toll, what);
-            }
-            for (int far = 10; far <= 90; far += 10) {
-                d = d * 31 + x.heard(toll, far);
-            }
-        }
-        return d;
-    }
-
-    /** A tower in which much is going on. */
-    private static MuffledTolls busy() {
-        MuffledTolls x = new MuffledTolls();
-        x.ringer(3);
-        x.ringer(2);
-        x.ringer(1);
-        x.ringer(4);
-        x.fit(0, 0, 2);
-        x.fit(0, 1, 1);
-        x.fit(2, 1, 9);
-        x.toll(0, 2, 40, 1);
-        x.toll(1, 1, 12, 3);
-        x.toll(2, 0, 7, 2);
-        x.toll(0, 0, 0, 5);
-        x.toll(2, 1, 100, 1);
-        x.toll(3, 0, 3, 1);
-        x.send(1, 3);
-        x.pass(11);
-        return x;
     }
 }

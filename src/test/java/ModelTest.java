@@ -3,7 +3,8 @@ import java.util.Random;
 /** Long runs of calls, always the same ones, with each answer beside that of PlainTower. */
 public final class ModelTest {
     private static final int RUNS = 400;
-    private static final int CALLS = 512;
+    /** With the checksums in between an object has at most 512 calls. */
+    private static final int CALLS = 448;
 
     private final MuffledTolls x = new MuffledTolls();
     private final PlainTower y = new PlainTower();

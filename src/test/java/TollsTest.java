@@ -60,7 +60,7 @@ public final class TollsTest {
     private static void strokesAreTellersAndYears() {
         for (int kind = 0; kind < 3; kind++) {
             for (int age : new int[] {0, 1, 7, 120}) {
-                MuffledTolls x = strong(2);
+                MuffledTolls x = Towers.strong(2);
                 x.toll(0, kind, age, 1);
                 int due = 3 * (kind + 1) + age;
                 int strokes = x.pass(240);
@@ -76,7 +76,7 @@ public final class TollsTest {
 
     private static void pausesOfEveryPace() {
         for (int pace = 1; pace <= 5; pace++) {
-            MuffledTolls x = strong(1);
+            MuffledTolls x = Towers.strong(1);
             x.toll(1, 1, 3, pace);
             // the tellers 2, 4 and 6 end groups; 7 and 8 are for years and 9 is the last
             for (int stroke = 1; stroke <= 8; stroke++) {
@@ -96,7 +96,7 @@ public final class TollsTest {
     }
 
     private static void noPauseBehindTheLastStroke() {
-        MuffledTolls x = strong(1);
+        MuffledTolls x = Towers.strong(1);
         x.toll(0, 0, 0, 5);
         x.toll(0, 0, 0, 5);
         x.pass(21);
@@ -110,7 +110,7 @@ public final class TollsTest {
     }
 
     private static void tollsWaitForEachOther() {
-        MuffledTolls x = strong(2);
+        MuffledTolls x = Towers.strong(2);
         x.toll(2, 0, 2, 1);
         x.toll(1, 0, 0, 1);
         x.toll(2, 0, 0, 1);
@@ -130,7 +130,7 @@ public final class TollsTest {
     }
 
     private static void sidesGoOnThroughTolls() {
-        MuffledTolls x = strong(1);
+        MuffledTolls x = Towers.strong(1);
         x.toll(0, 0, 0, 1);
         x.pass(5);
         Check.same("behind three strokes", x.bell(0, 3), 1);
@@ -145,7 +145,7 @@ public final class TollsTest {
     }
 
     private static void stopOfARingingToll() {
-        MuffledTolls x = strong(1);
+        MuffledTolls x = Towers.strong(1);
         x.toll(0, 2, 30, 4);
         x.toll(0, 0, 0, 1);
         x.pass(1);
@@ -165,7 +165,7 @@ public final class TollsTest {
     }
 
     private static void stopOfAWaitingToll() {
-        MuffledTolls x = strong(1);
+        MuffledTolls x = Towers.strong(1);
         x.toll(0, 0, 5, 5);
         x.toll(0, 1, 10, 1);
         x.toll(0, 0, 0, 1);
@@ -183,7 +183,7 @@ public final class TollsTest {
     }
 
     private static void stopOfTheFirstThatWaits() {
-        MuffledTolls x = strong(2);
+        MuffledTolls x = Towers.strong(2);
         x.toll(3, 0, 5, 1);
         x.send(3, 1);
         Check.same("left out", x.stop(0), 8);
@@ -199,7 +199,7 @@ public final class TollsTest {
     }
 
     private static void stopRefuses() {
-        MuffledTolls x = strong(1);
+        MuffledTolls x = Towers.strong(1);
         Check.noIndex(x, "stop(0) without tolls", () -> x.stop(0));
         x.toll(0, 0, 0, 1);
         x.toll(0, 0, 0, 1);
@@ -213,7 +213,7 @@ public final class TollsTest {
     }
 
     private static void aboutTellsAll() {
-        MuffledTolls x = strong(1);
+        MuffledTolls x = Towers.strong(1);
         x.fit(1, 1, 9);
         x.toll(1, 1, 4, 2);
         long[] atFirst = {1, 1, 4, 2, 0, 0, 0, 0, -1};
@@ -252,7 +252,7 @@ public final class TollsTest {
 
     private static void heardIsOfYearsAlone() {
         // two, since ten strokes of 9 are all that one can pull
-        MuffledTolls x = strong(2);
+        MuffledTolls x = Towers.strong(2);
         x.weigh(2, 9);
         x.toll(2, 2, 6, 1);
         x.pass(12);
@@ -271,7 +271,7 @@ public final class TollsTest {
     }
 
     private static void heardThroughLeathers() {
-        MuffledTolls x = strong(1);
+        MuffledTolls x = Towers.strong(1);
         x.weigh(0, 7);
         x.toll(0, 0, 20, 1);
         x.pass(6);
@@ -313,7 +313,7 @@ public final class TollsTest {
     }
 
     private static void countTellsAll() {
-        MuffledTolls x = strong(3);
+        MuffledTolls x = Towers.strong(3);
         x.fit(0, 0, 5);
         x.fit(0, 1, 1);
         x.fit(3, 1, 1);
@@ -337,17 +337,5 @@ public final class TollsTest {
         for (int what : new int[] {-1, 9, Integer.MIN_VALUE, Integer.MAX_VALUE}) {
             Check.noIndex(x, "count(" + what + ")", () -> x.count(what));
         }
-    }
-
-    /** A tower with so many ringers of the strength 9, and all bells of the weight 1. */
-    private static MuffledTolls strong(int ringers) {
-        MuffledTolls x = new MuffledTolls();
-        for (int i = 0; i < ringers; i++) {
-            x.ringer(9);
-        }
-        for (int bell = 0; bell < 4; bell++) {
-            x.weigh(bell, 1);
-        }
-        return x;
     }
 }
