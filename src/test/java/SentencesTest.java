@@ -4,6 +4,7 @@ import java.io.IOException;
 public final class SentencesTest {
     public static void main(String[] args) throws IOException {
         Doc.read();
+        SentencesOfFace.check();
         SentencesOfTerms.check();
         SentencesOfSteps.check();
         SentencesOfBells.check();
@@ -17,6 +18,7 @@ public final class SentencesTest {
     /** What is passed over tells nothing that a call could answer. */
     private static void nothingLeft() {
         Doc.nothingLeft("What it is");
+        Doc.nothingLeft("The public face");
         Doc.nothingLeft("Terms",
             "Each toll is rung on one of four bells: tellers first, then a stroke for each year of the age; "
                 + "leathers on the clappers muffle the strokes of one side or of both, and get worn; "
@@ -24,12 +26,7 @@ public final class SentencesTest {
                 + "and it is told how far each toll is, how many strokes were loud, what age one counts who "
                 + "listens far away, "
                 + "how long a leather lasts, when a toll will be done, on which bell one would be done soonest, "
-                + "and how the next minutes will be.",
-            "Ahead of the calls `weigh`, `fit`, `store`, `lasts`, `bell` the interface says: ---- bells and leathers.",
-            "Ahead of the calls `ringer`, `send`, `told` the interface says: ---- ringers.",
-            "Ahead of the calls `toll`, `stop`, `about`, `heard`, `count` the interface says: ---- tolls.",
-            "Ahead of the calls `pass`, `ends`, `foresee`, `choose`, `mean`, `digest` the interface says: "
-                + "---- minutes and what would be.");
+                + "and how the next minutes will be.");
         Doc.nothingLeft("Promise");
     }
 }
